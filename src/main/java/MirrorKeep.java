@@ -506,7 +506,7 @@ public final class MirrorKeep {
         private int placeOf(byte[] path) {
             int low = 0;
             int high = count;
-            while (low < high) {
+            for (int round = 0; round < count && low < high; round++) {
                 int middle = (low + high) >>> 1;
                 Entry entry = get(middle);
                 if (entry != null && Paths.compare(entry.path, path) < 0) {
@@ -607,9 +607,13 @@ public final class MirrorKeep {
             count = 0;
             int i = 0;
             int j = 0;
-            while (i < from.size() || j < to.size()) {
+            int most = from.size() + to.size();
+            for (int round = 0; round < most; round++) {
                 Entry old = from.get(i);
                 Entry fresh = to.get(j);
+                if (old == null && fresh == null) {
+                    return;
+                }
                 int order = order(old, fresh);
                 if (order < 0) {
                     add(old, null);

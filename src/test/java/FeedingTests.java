@@ -117,5 +117,8 @@ public final class FeedingTests {
         CHECKS.due("end(1) behind end(0)", k.x().end(1), 6);
         k.x().write(0);
         CHECKS.due("ready bytes are 0", k.content(Keep.SOURCE, 0), "\0\0ab\0\0");
+        CHECKS.due("end(20) of what is 0", k.x().end(20), 20);
+        CHECKS.due("write(6)", k.x().write(6), 26);
+        CHECKS.due("all twenty are", k.content(Keep.SOURCE, 0), "\0\0ab" + "\0".repeat(22));
     }
 }

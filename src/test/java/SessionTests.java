@@ -135,8 +135,10 @@ public final class SessionTests {
         k.x().set(1, 1);
         CHECKS.due("all as it was", k.x().differ(), 0);
         k.write(2, "d");
-        CHECKS.due("another byte", k.x().differ(), 1);
-        k.write(2, "c");
+        CHECKS.due("another last byte", k.x().differ(), 1);
+        k.write(0, "bbc");
+        CHECKS.due("another first byte", k.x().differ(), 1);
+        k.write(0, "a");
         CHECKS.due("the same bytes", k.x().differ(), 0);
         k.x().cut(2);
         CHECKS.due("a byte less", k.x().differ(), 1);
