@@ -423,19 +423,14 @@ public final class MirrorKeep {
             return true;
         }
 
+        /** A slash ends a name, so it comes ahead of every byte that goes on with one. */
         static int compare(byte[] a, byte[] b) {
-            int shared = Math.min(a.length, b.length);
-            for (int i = 0; i < shared; i++) {
+            for (int i = 0; i < a.length && i < b.length; i++) {
                 if (a[i] != b[i]) {
-                    return rank(a[i]) - rank(b[i]);
+                    return a[i] == SLASH ? -1 : b[i] == SLASH ? 1 : (a[i] & 255) - (b[i] & 255);
                 }
             }
             return a.length - b.length;
-        }
-
-        /** A slash ends a name, so it comes ahead of every byte that goes on with one. */
-        private static int rank(byte b) {
-            return b == SLASH ? -1 : b & 255;
         }
     }
 
@@ -498,8 +493,12 @@ public final class MirrorKeep {
 
         int find(byte[] path) {
             int place = placeOf(path);
+            return isAt(place, path) ? place : NONE;
+        }
+
+        private boolean isAt(int place, byte[] path) {
             Entry entry = get(place);
-            return entry != null && Paths.compare(entry.path, path) == 0 ? place : NONE;
+            return entry != null && Paths.compare(entry.path, path) == 0;
         }
 
         /** How many entries lie ahead of the path. */
@@ -525,11 +524,11 @@ public final class MirrorKeep {
         }
 
         void put(Entry entry) {
-            int found = find(entry.path);
-            if (found == NONE) {
-                insert(placeOf(entry.path), entry);
+            int place = placeOf(entry.path);
+            if (isAt(place, entry.path)) {
+                replace(place, entry);
             } else {
-                replace(found, entry);
+                insert(place, entry);
             }
         }
 

@@ -7,6 +7,7 @@ final class Checks {
     private static final int SECONDS = 300;
 
     private final String test;
+    private String sentence = "";
     private int checked = 0;
     private int wrong = 0;
 
@@ -47,14 +48,23 @@ final class Checks {
         }
     }
 
+    /** The words of the document that the checks from here on hold. */
+    void sentence(String where, String words) {
+        sentence = where + " \"" + words + "\": ";
+    }
+
     void due(String what, String got, String want) {
         checked++;
         if (!got.equals(want)) {
             wrong++;
             if (wrong <= 50) {
-                System.out.println(test + ": " + what + " answered " + got + ", due is " + want);
+                System.out.println(test + ": " + sentence + what + " answered " + got + ", due is " + want);
             }
         }
+    }
+
+    void holds(String what, boolean got) {
+        due(what, Boolean.toString(got), "true");
     }
 
     void due(String what, long got, long want) {

@@ -53,6 +53,28 @@ final class Keep {
         return this;
     }
 
+    /** Bytes that are 0 come to the tape by end() alone, so that long content takes few calls. */
+    Keep zeros(int n) {
+        for (int left = n; left > 0; left -= 20) {
+            x().end(Math.min(20, left));
+        }
+        return this;
+    }
+
+    int writeZeros(int at, int n) {
+        zeros(n);
+        return x().write(at);
+    }
+
+    /** Content of n bytes for the entry that is chosen and has none. */
+    int fill(int n) {
+        int length = 0;
+        for (int at = 0; at < n; at += 400) {
+            length = writeZeros(at, Math.min(400, n - at));
+        }
+        return length;
+    }
+
     int make(String path, int kind) {
         return make(path, kind, 0, 0);
     }
@@ -122,6 +144,27 @@ final class Keep {
         StringBuilder all = new StringBuilder();
         for (int i = 0; i < 1000 && x().entry(tree, i, 0) != MirrorKeep.NONE; i++) {
             all.append(i == 0 ? "" : " ").append(path(tree, i));
+        }
+        return all.toString();
+    }
+
+    /** Whether an entry is chosen; only to be asked when no session is under way, and changes nothing. */
+    boolean hasChosen() {
+        return Checks.answer(() -> x().set(-1, -1)).equals(Checks.ARGUMENT);
+    }
+
+    /** Every answer that looking gives, but for which entry is chosen. */
+    String all() {
+        StringBuilder all = new StringBuilder("about");
+        for (int what = 0; what <= 8; what++) {
+            all.append(' ').append(x().about(what));
+        }
+        all.append(", differ ").append(x().differ()).append(", sessions");
+        for (int i = 0; i < 1000 && x().session(i, 0) != MirrorKeep.NONE; i++) {
+            all.append(' ').append(x().session(i, 0)).append('/').append(x().session(i, 1));
+        }
+        for (int tree = SOURCE; tree <= RESULT; tree++) {
+            all.append(", tree ").append(tree).append(" [").append(tree(tree)).append(']');
         }
         return all.toString();
     }
