@@ -91,7 +91,8 @@ public final class ModelRuns {
             for (int i = 0; i < 5; i++) {
                 words[i] = Keep.word(bytes, from + 4 * i);
             }
-            plain("feed", () -> keep.feed(words[0], words[1], words[2], words[3], words[4]), () -> model.feed(words));
+            plain("feed", () -> keep.feed(words[0], words[1], words[2], words[3], words[4]),
+                    () -> model.feed(words[0], words[1], words[2], words[3], words[4]));
             end(oneIn(60) ? usually(20) : Math.min(20, bytes.length - from));
         }
     }

@@ -106,9 +106,9 @@ final class Model {
         return taken;
     }
 
-    void feed(int... words) {
+    void feed(int a, int b, int c, int d, int e) {
         StringBuilder bytes = new StringBuilder();
-        for (int word : words) {
+        for (int word : new int[] {a, b, c, d, e}) {
             bytes.append((char) (word >>> 24)).append((char) (word >>> 16 & 255));
             bytes.append((char) (word >>> 8 & 255)).append((char) (word & 255));
         }
