@@ -18,6 +18,7 @@ public final class FaceTests {
         restIsTheDocuments();
         noPrivateMethodHasAPublicName();
         nestedClassesAreHidden();
+        fieldsAndParametersAreFew();
         CHECKS.end();
     }
 
@@ -75,14 +76,22 @@ public final class FaceTests {
         }
     }
 
+    private static Class<?>[] allClasses() {
+        Class<?>[] nested = MirrorKeep.class.getDeclaredClasses();
+        Class<?>[] all = Arrays.copyOf(nested, nested.length + 1);
+        all[nested.length] = MirrorKeep.class;
+        return all;
+    }
+
     private static void noPrivateMethodHasAPublicName() {
         Set<String> shown = new TreeSet<>();
         for (Method method : MirrorKeep.class.getMethods()) {
             shown.add(method.getName());
         }
-        for (Method method : MirrorKeep.class.getDeclaredMethods()) {
-            if (Modifier.isPrivate(method.getModifiers())) {
-                CHECKS.due("a public name: " + method.getName(), shown.contains(method.getName()) ? 1 : 0, 0);
+        for (Class<?> one : allClasses()) {
+            for (Method method : one.getDeclaredMethods()) {
+                boolean ofTheFace = Modifier.isPublic(method.getModifiers());
+                CHECKS.due("a public name: " + method, !ofTheFace && shown.contains(method.getName()) ? 1 : 0, 0);
             }
         }
     }
@@ -95,6 +104,30 @@ public final class FaceTests {
             CHECKS.due("static: " + one.getName(), Modifier.isStatic(modifiers) ? 1 : 0, 1);
             boolean shown = Modifier.isPublic(modifiers) || Modifier.isProtected(modifiers);
             CHECKS.due("hidden: " + one.getName(), shown ? 1 : 0, 0);
+            CHECKS.due("no class within: " + one.getName(), one.getDeclaredClasses().length, 0);
+        }
+    }
+
+    /** LANGUAGE.md, rules 5 and 11. */
+    private static void fieldsAndParametersAreFew() {
+        Set<String> constants = Set.of("int", "long", "boolean", "char", "String", "int[]", "long[]", "char[]", "byte[]");
+        for (Class<?> one : allClasses()) {
+            int fields = 0;
+            for (Field field : one.getDeclaredFields()) {
+                if (Modifier.isStatic(field.getModifiers())) {
+                    CHECKS.holds("final: " + field, Modifier.isFinal(field.getModifiers()));
+                    CHECKS.holds("a constant: " + field, constants.contains(field.getType().getSimpleName()));
+                } else {
+                    fields++;
+                }
+            }
+            CHECKS.holds("at most twenty fields: " + one.getName(), fields <= 20);
+            for (Method method : one.getDeclaredMethods()) {
+                CHECKS.holds("at most seven parameters: " + method, method.getParameterCount() <= 7);
+            }
+            for (Constructor<?> constructor : one.getDeclaredConstructors()) {
+                CHECKS.holds("at most seven parameters: " + constructor, constructor.getParameterCount() <= 7);
+            }
         }
     }
 }
